@@ -126,7 +126,7 @@ public final class StackForth {
         if (what == 0) {
             return found.size;
         }
-        return what == 1 ? found.sum(found.loads) : found.sum(found.stores);
+        return Definition.sum(what == 1 ? found.loads : found.stores);
     }
 
     /**
@@ -444,7 +444,7 @@ public final class StackForth {
             }
         }
 
-        int sum(int[] row) {
+        static int sum(int[] row) {
             int sum = 0;
             for (int i = 0; i < row.length; i++) {
                 sum += row[i];

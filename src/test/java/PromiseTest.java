@@ -88,11 +88,12 @@ public final class PromiseTest {
     private static void promise3Words() {
         Check.same("words between spaces", Check.text(new StackForth(), "  1   2  3 "), 3);
         Check.same("names are words", Check.text(new StackForth(), ": A 1 ; VARIABLE B 3 CONSTANT C"), 9);
+        Check.same("words of the second text", Check.text(Check.after("1 2 3"), "4 5"), 2);
         Check.same("spaces alone", Check.text(new StackForth(), "   "), 0);
         Check.same("80 words", Check.text(new StackForth(), times(40, "1 . ")), 80);
         Check.gives("0 -0 007 999999999 -999999999", 0, 0, 7, 999999999, -999999999);
         for (String word : new String[] {"1234567890", "-1234567890", "--1", "+1", "1-", "12a", "dup", "FOO",
-            "NUMBER", "CALL", "DUPDUPDUP", "-:", "/0", "0x1", "COMPILERS", ".."}) {
+            "NUMBER", "CALL", "DUPDUPDUP", "-:", "/0", "0x1", "VARIABLES", "CONSTANTS", ".."}) {
             Check.textFails(new StackForth(), word, UNKNOWN);
             Check.textFails(new StackForth(), ": A " + word, UNKNOWN);
         }

@@ -6,6 +6,7 @@ public final class RegisterTest {
     public static void main(String[] args) {
         straightCode();
         whereAllIsStored();
+        whatWasDroppedHoldsNothing();
         whatIsDone();
         whatIsDoneWhenItThrows();
         whereStoresBelong();
@@ -68,10 +69,12 @@ public final class RegisterTest {
         code("IF 1 ELSE 2 THEN +", 6, 3, 3);
         code("1 BEGIN + DUP UNTIL", 5, 2, 2);
         code("1 2 BEGIN UNTIL", 4, 1, 2);
+        code("BEGIN 1 2 UNTIL +", 5, 2, 2);
         code("BEGIN 1 2 AGAIN +", 5, 2, 3);
         code("BEGIN DUP 1 WHILE 1 + REPEAT DROP", 8, 3, 3);
         code("DO LOOP", 3, 2, 0);
         code("1 2 3 DO LOOP", 6, 0, 1);
+        code("1 2 3 DO + LOOP", 7, 2, 2);
         code("1 DO I LOOP +", 6, 3, 2);
         code("1 2 EXIT +", 5, 2, 3);
         code("1 2 RECURSE +", 5, 2, 3);
@@ -83,6 +86,14 @@ public final class RegisterTest {
         Check.same("1 C + V: stores", forth.definition(4, 2), 2);
         Check.same("a constant: stores", forth.definition(1, 2), 1);
         Check.same("a variable: stores", forth.definition(2, 2), 1);
+    }
+
+    private static void whatWasDroppedHoldsNothing() {
+        StackForth forth = Check.after(": A 1 2");
+        Check.textFails(forth, "FOO", java.util.NoSuchElementException.class);
+        Check.text(forth, ": A + ;");
+        Check.same("+ behind a dropped definition: loads", forth.definition(0, 1), 2);
+        Check.same("+ behind a dropped definition: stores", forth.definition(0, 2), 1);
     }
 
     private static void done(String definitions, String text, int throwing, int steps, int loads, int stores) {
@@ -133,6 +144,10 @@ public final class RegisterTest {
         done(filling + ": A 1 2 EXIT ; ", filled + "A", THROWS, 600, 0, 2);
         done(filling + ": A 1 2 + ; ", filled + "A", THROWS, 600, 0, 0);
         done(filling + ": A 1 2 BEGIN 3 AGAIN ; ", filled + "A", THROWS, 600, 0, 2);
+        done(filling + ": A BEGIN 1 2 AGAIN ; ", filled + "A", THROWS, 600, 0, 2);
+        done(filling + ": A BEGIN WHILE 5 REPEAT ; ", "1 G 1 DROP 1 A", THROWS, 600, 1, 1);
+        done(filling + ": A IF 5 ELSE 6 THEN ; ", "1 G 1 DROP 1 A", THROWS, 600, 1, 1);
+        done(filling + ": A DO 5 LOOP ; ", "1 G 1 DROP 1 A", THROWS, 600, 2, 1);
         done(filling + ": A 1 IF 3 THEN ; ", filled + "A", THROWS, 600, 0, 0);
         done(filling + ": A 1 2 RECURSE ; ", filled + "A", THROWS, 600, 0, 2);
         done(filling + ": A 1 2 F ; ", filled + "A", THROWS, 600, 0, 2);
