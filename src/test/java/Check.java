@@ -5,15 +5,25 @@ final class Check {
     }
 
     private static int wrong = 0;
+    private static String sentence = "";
 
     private Check() {
     }
 
+    /** The document's words that the checks behind it are about. */
+    static void sentence(String words) {
+        sentence = words;
+    }
+
     static void same(String what, long got, long due) {
         if (got != due) {
-            wrong++;
-            System.out.println(what + " answered " + got + ", due is " + due);
+            complain(what + " answered " + got + ", due is " + due);
         }
+    }
+
+    private static void complain(String about) {
+        wrong++;
+        System.out.println((sentence.isEmpty() ? "" : "\"" + sentence + "\": ") + about);
     }
 
     static void holds(String what, boolean got) {
@@ -28,8 +38,7 @@ final class Check {
             got = e.getClass();
         }
         if (got != due) {
-            wrong++;
-            System.out.println(what + " threw " + got + ", due is " + due);
+            complain(what + " threw " + got + ", due is " + due);
         }
     }
 
@@ -77,6 +86,31 @@ final class Check {
         for (int i = 0; i < Math.min(due.length, forth.depth()); i++) {
             same(what + ": top(" + i + ")", forth.top(i), due[due.length - 1 - i]);
         }
+    }
+
+    /** The counts 0, 1 and so on must be these. */
+    static void counts(String what, StackForth forth, int... due) {
+        for (int i = 0; i < due.length; i++) {
+            same(what + ": count(" + i + ")", forth.count(i), due[i]);
+        }
+    }
+
+    /** A new object on whose stack the numbers 1 to n are, n on top. */
+    static StackForth withNumbers(int n) {
+        StringBuilder text = new StringBuilder();
+        for (int i = 1; i <= n; i++) {
+            text.append(i).append(' ');
+        }
+        return after(text.toString());
+    }
+
+    /** A new object on whose return stack the numbers 1 to n are, n on top. */
+    static StackForth withReturns(int n) {
+        StackForth forth = new StackForth();
+        for (int i = 1; i <= n; i++) {
+            text(forth, i + " >R");
+        }
+        return forth;
     }
 
     /** What a text leaves on the stack of a new object. */
