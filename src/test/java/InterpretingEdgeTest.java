@@ -361,7 +361,8 @@ public final class InterpretingEdgeTest {
 
     private static void unknownWords() {
         Check.sentence("NoSuchElementException, when a word is none of these");
-        for (String word : "dup Dup DU DUPP SWAPP FOO NUMBER CALL 2+ 1- 2OVER R @@ ;; :: ( \\ .\" J +LOOP CR".split(" ")) {
+        for (String word : ("VARIABLES CONSTANTX VARIABL CONSTAN dup Dup DU DUPP SWAPP FOO NUMBER CALL 2+ 1- 2OVER R"
+                + " @@ ;; :: ( \\ .\" J +LOOP CR").split(" ")) {
             Check.textFails(new StackForth(), "1 2 3 " + word, UNKNOWN);
             Check.textFails(Check.after("1 2 3 >R : A 1"), word, UNKNOWN);
         }

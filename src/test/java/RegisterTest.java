@@ -137,6 +137,7 @@ public final class RegisterTest {
 
     /** A step that is missing for the operation behind does not keep what is held from being stored. */
     private static void whereStoresBelong() {
+        Check.sentence("Stores belong to the operation behind which they come, loads to the one that needs them.");
         String filling = ": F 192 0 DO LOOP ; : G F F F ; ";
         String filled = "G 1 DROP 1 DROP ";
         done(filling, filled, NO_THROW, 597, 0, 0);
